@@ -1014,11 +1014,10 @@ public final class MarketTown {
                 price = asks.price[asks.picked[a]];
                 int supplyThen = supply + asks.left[asks.picked[a]];
                 int demandThen = demand + bids.left[bids.picked[b]];
-                if (supplyThen <= demandThen) {
+                if (supplyThen < demandThen) {
                     supply = supplyThen;
                     a++;
-                }
-                if (demandThen <= supplyThen) {
+                } else {
                     demand = demandThen;
                     b++;
                 }

@@ -355,6 +355,15 @@ final class DayTests {
         // the first bid gets 1 at 7, then asks are above it; the second one gets 4 at 8 and 1 at 12
         dueCash("12: posted, not above", town, -7, -44, 44, 7);
         is.due("12: posted: the price", town.goods(0, 2), 12);
+        town = marketTown(0, "bid 0 5 20", "bid 0 5 9", "ask 0 4 8;ask 0 9 12", "ask 0 1 7");
+        inRisingOrder(town);
+        town.live(1);
+        // the earlier bid gets 1 at 7 and 4 at 8; the later one finds asks above it alone
+        dueCash("12: posted, the earlier bid first", town, -39, 0, 32, 7);
+        town = marketTown(0, "bid 0 5 9", "bid 0 5 20", "ask 0 4 8;ask 0 9 12", "ask 0 1 7");
+        inRisingOrder(town);
+        town.live(1);
+        dueCash("12: posted, though the later is higher", town, -39, -60, 92, 7);
         town = marketTown(0, "bid 0 5 7", "ask 0 5 8");
         town.live(1);
         dueCash("12: posted, none", town, 0, 0);

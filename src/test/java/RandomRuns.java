@@ -12,6 +12,9 @@ final class RandomRuns {
     private ReferenceTown model;
     private ReferenceTown[] worlds;
     private String run;
+    /** How many goods the run's rules speak of, and whether they mostly offer: then markets are crowded. */
+    private int span;
+    private boolean crowded;
 
     public static void main(String[] args) {
         RandomRuns runs = new RandomRuns();
@@ -27,6 +30,8 @@ final class RandomRuns {
         model = new ReferenceTown();
         worlds = new ReferenceTown[3];
         run = "run " + seed;
+        span = 1 + below(5);
+        crowded = below(2) == 0;
         int first = 2 + random.nextInt(10);
         for (int i = 0; i < first; i++) {
             newAgent();
@@ -34,6 +39,13 @@ final class RandomRuns {
         for (int good = 0; good < 5; good++) {
             newGood(good);
             newRecipe(good);
+        }
+        int rules = below(crowded ? 80 : 30);
+        for (int i = 0; i < rules; i++) {
+            newRule();
+        }
+        for (int i = 0; i < (crowded ? 20 : 4); i++) {
+            give();
         }
         for (int step = 0; step < 60; step++) {
             oneStep();
@@ -116,7 +128,7 @@ final class RandomRuns {
 
     private void give() {
         int agent = below(model.agents.size());
-        int good = below(5);
+        int good = below(span);
         int many = 1 + below(below(5) == 0 ? 999 : 20);
         for (int i = 0; i < many; i++) {
             model.agents.get(agent).pieces.get(good).add(0);
@@ -217,20 +229,20 @@ final class RandomRuns {
             case 0:
                 return "cash" + sign + below(200);
             case 1:
-                return "have " + below(5) + sign + below(20);
+                return "have " + below(span) + sign + below(20);
             case 2:
                 return "day" + sign + below(40);
             default:
-                return "price " + below(5) + sign + below(15);
+                return "price " + below(span) + sign + below(15);
         }
     }
 
     private String actText() {
-        int good = below(5);
+        int good = below(span);
         int many = 1 + below(below(4) == 0 ? 60 : 9);
         int price = 1 + below(below(4) == 0 ? 60 : 12);
         int other = below(model.agents.size());
-        switch (below(10)) {
+        switch (crowded && below(3) > 0 ? 3 + below(4) : below(10)) {
             case 0:
             case 1:
                 return "make " + good + " " + many;

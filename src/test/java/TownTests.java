@@ -109,9 +109,13 @@ final class TownTests {
     private static void recipe() {
         MarketTown town = new MarketTown();
         town.agent(2, 0);
-        Expect.rule(town, 0, "make 4 3");
+        for (int good = 0; good < 5; good++) {
+            Expect.rule(town, 0, "make " + good + " 3");
+        }
         town.live(1);
-        is.due("5: none at first", town.goods(4, 5), 0);
+        for (int good = 0; good < 5; good++) {
+            is.due("5: none at first", town.goods(good, 5), 0);
+        }
         int[][] bad = {{-1, 0, 0, 0, 0}, {5, 0, 0, 0, 0}, {4, -1, 0, 0, 0}, {4, 5, 0, 0, 0}, {4, 0, -2, 0, 0},
             {4, 0, 10, 0, 0}, {4, 0, 0, -1, 0}, {4, 0, 0, 5, 0}, {4, 0, 0, 0, -1}, {4, 0, 0, 0, 10},
             {4, 0, -1, 0, -1}, {4, 0, -1, 0, 10}, {4, 5, -1, 0, 0}, {4, 0, -1, 5, 0}, {5, 0, -1, 0, 0},
@@ -261,7 +265,7 @@ final class TownTests {
             "make 0 9999", "make 0 10000", "make 0 99999999999999999999", "ask 0 1", "ask 0 1 0", "ask 0 1 1000",
             "ask 0 1 1 1", "bid 0 1 0", "bid 0 0 1", "bid 5 1 1", "pay 1 5", "pay 12 5", "pay 0 0", "pay 0 1000", "pay 0 1 1",
             "lend 1 1 1", "lend 12 1 1", "lend 0 0 1", "lend 0 1 0", "lend 0 1 31", "lend 0 1", "lend 0 1 1 1",
-            "  eat  0  1  x", "5 eat 0 1", "< eat 0 1", "eat 0 1\t", "eat\t0 1", "\u00ff", "eat 0 1 \0", "eat 4294967296 1",
+            "  eat  0  1  x", "5 eat 0 1", "< eat 0 1", "eat 0 1\t", "eat\t0 1", "\u00ff", "eat 0 1 \0", "eat 4294967296 1", "eat 0 1:", "eat 0 1/",
             "123456789 123456789 123456789 123456789 123456789 123456789 "};
         int[] due = {0, 1, 5, 5, 6, 6, 6, 6,
             7, 8, 8, 0, 0, 0,
@@ -274,7 +278,7 @@ final class TownTests {
             7, 7, 7, 7, 8, 8,
             10, 8, 6, 4, 4, 4, 6, 6, 8,
             5, 5, 7, 9, 9, 8, 11,
-            13, 0, 0, 6, 0, 0, 8, 4, 0};
+            13, 0, 0, 6, 0, 0, 8, 4, 6, 6, 0};
         MarketTown town = fullTown();
         is.due("10: as many as there are", due.length, texts.length);
         for (int i = 0; i < texts.length; i++) {
