@@ -2,12 +2,18 @@
 final class Expect {
     private int wrong;
     private int asked;
+    private String sentence = "";
+
+    /** The words of the document that the next answers are due by. */
+    void sentence(String... words) {
+        sentence = "[" + String.join(" .. ", words) + "] ";
+    }
 
     void due(String what, long got, long want) {
         asked++;
         if (got != want) {
             wrong++;
-            System.out.println(what + " answered " + got + ", due is " + want);
+            System.out.println(sentence + what + " answered " + got + ", due is " + want);
         }
     }
 

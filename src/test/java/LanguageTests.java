@@ -63,27 +63,33 @@ final class LanguageTests {
     }
 
     private static void words(String text) {
-        String[] banned = {"throw", "throws", "try", "catch", "synchronized", "assert", "package", "import", "protected",
-            "var", "yield", "native", "volatile", "transient", "equals", "hashCode", "toString"};
+        String[] banned = {"throw", "throws", "try", "catch", "synchronized", "assert", "package", "protected", "native",
+            "volatile", "hashCode"};
         for (String word : banned) {
             is.holds("no " + word, !Pattern.compile("\\b" + word + "\\b").matcher(text).find());
         }
         is.holds("2: no lambda", !text.contains("->"));
         is.holds("2: no method reference", !text.contains("::"));
-        is.holds("6: no Exact", !text.contains("Exact"));
+        is.holds("4: no Exact", !text.contains("Exact"));
+        is.holds("5: no static block", !Pattern.compile("\\bstatic\\s*\\{").matcher(text).find());
         for (int i = 0; i < text.length(); i++) {
-            if (text.charAt(i) > 126) {
-                is.due("plain characters, at " + i, text.charAt(i), 126);
+            if (text.charAt(i) > 255) {
+                is.due("3: characters 0 to 255, at " + i, text.charAt(i), 255);
             }
         }
     }
 
-    /** What is called of the library's classes. */
+    /** What is brought in, and what is called of the library's classes by their names. */
     private static void library(String text) {
-        Matcher matcher = Pattern.compile("\\b(System|Math|Integer|Long|Arrays)\\.(\\w+)").matcher(text);
-        Set<String> allowed = Set.of("System.arraycopy", "Math.min", "Math.max", "Integer.MAX_VALUE");
-        while (matcher.find()) {
-            is.holds("4: " + matcher.group(), allowed.contains(matcher.group()));
+        Matcher brought = Pattern.compile("\\bimport\\s+([\\w.*]+)").matcher(text);
+        Set<String> known = Set.of("java.util.ArrayList", "java.util.List", "java.util.Arrays", "java.util.Iterator");
+        while (brought.find()) {
+            is.holds("4: " + brought.group(), known.contains(brought.group(1)));
+        }
+        Matcher called = Pattern.compile("\\b(System|Arrays|Character|Objects|Collections|Runtime|Thread)\\.(\\w+)").matcher(text);
+        Set<String> allowed = Set.of("System.arraycopy", "Arrays.copyOf", "Arrays.copyOfRange", "Arrays.fill");
+        while (called.find()) {
+            is.holds("4: " + called.group(), allowed.contains(called.group()));
         }
     }
 

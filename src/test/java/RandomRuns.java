@@ -1,8 +1,10 @@
 import java.util.Random;
 
-/** Long runs of calls by fixed seeds, each answer compared with that of ReferenceTown. */
+/** Runs of 512 calls by fixed seeds, each answer compared with that of ReferenceTown. */
 final class RandomRuns {
-    private static final int RUNS = 700;
+    private static final int RUNS = 2500;
+    /** An object is used for 512 calls at most: some set it up, some are steps, the rest are questions. */
+    private static final int MOST_CALLS = 512, CALLS_OF_SETUP = 290, CALLS_OF_STEPS = 430, QUESTIONS_A_LIFE = 8;
     private static final String[] FAULTS = {"", " ", "every", "if", "x", "0", "1000", "9999", "10000", "<", "every 100",
         "if cash", "eat 0", "make 5 1", "pay 0 1", "lend 0 1 31", "12x", "007", "if have 4 <", "if price 1 > 3"};
 
@@ -12,6 +14,7 @@ final class RandomRuns {
     private ReferenceTown model;
     private ReferenceTown[] worlds;
     private String run;
+    private int calls;
     /** How many goods the run's rules speak of, and whether they mostly offer: then markets are crowded. */
     private int span;
     private boolean crowded;
@@ -30,6 +33,7 @@ final class RandomRuns {
         model = new ReferenceTown();
         worlds = new ReferenceTown[3];
         run = "run " + seed;
+        calls = 0;
         span = 1 + below(5);
         crowded = below(2) == 0;
         int first = 2 + random.nextInt(10);
@@ -40,17 +44,24 @@ final class RandomRuns {
             newGood(good);
             newRecipe(good);
         }
-        int rules = below(crowded ? 80 : 30);
-        for (int i = 0; i < rules; i++) {
-            newRule();
-        }
         for (int i = 0; i < (crowded ? 20 : 4); i++) {
             give();
         }
-        for (int step = 0; step < 60; step++) {
+        int rules = below(crowded ? 80 : 30);
+        for (int i = 0; i < rules && calls < CALLS_OF_SETUP; i++) {
+            newRule();
+        }
+        while (calls < CALLS_OF_STEPS) {
             oneStep();
         }
-        compareAll();
+        while (calls < MOST_CALLS) {
+            ask();
+        }
+    }
+
+    private void due(String what, long got, long want) {
+        calls++;
+        is.due(run + ": " + what, got, want);
     }
 
     private int below(int n) {
@@ -84,7 +95,9 @@ final class RandomRuns {
             case 8:
             case 9:
                 live(1 + below(below(4) == 0 ? 30 : 3));
-                compareSome();
+                for (int i = 0; i < QUESTIONS_A_LIFE; i++) {
+                    ask();
+                }
                 break;
             default:
                 newRule();
@@ -96,9 +109,9 @@ final class RandomRuns {
             int kind = below(6);
             int cash = below(3) == 0 ? below(100001) : below(300);
             model.agents.add(new ReferenceTown.Agent(kind, cash));
-            is.due(run + ": agent", town.agent(kind, cash), model.agents.size() - 1);
+            due("agent", town.agent(kind, cash), model.agents.size() - 1);
         } else {
-            is.due(run + ": agent", town.agent(below(6), 5), MarketTown.FULL);
+            due("agent", town.agent(below(6), 5), MarketTown.FULL);
         }
     }
 
@@ -107,22 +120,22 @@ final class RandomRuns {
         int market = below(3);
         model.goods[good][0] = life;
         model.goods[good][1] = market;
-        is.due(run + ": good", town.good(good, life, market), 0);
+        due("good", town.good(good, life, market), 0);
     }
 
     private void newRecipe(int good) {
         int[] row = {below(5), below(4) - 1, below(5), below(3)};
         model.recipes[good] = row[1] < 0 ? null : row;
-        is.due(run + ": recipe", town.recipe(good, row[0], row[1], row[2], row[3]), 0);
+        due("recipe", town.recipe(good, row[0], row[1], row[2], row[3]), 0);
     }
 
     private void newPolicy() {
         model.tax = below(1001);
         model.interest = below(101);
-        is.due(run + ": policy", town.policy(model.tax, model.interest), 0);
+        due("policy", town.policy(model.tax, model.interest), 0);
         if (below(2) == 0) {
             model.lots = below(Integer.MAX_VALUE);
-            is.due(run + ": lots", town.lots((int) model.lots), 0);
+            due("lots", town.lots((int) model.lots), 0);
         }
     }
 
@@ -133,7 +146,7 @@ final class RandomRuns {
         for (int i = 0; i < many; i++) {
             model.agents.get(agent).pieces.get(good).add(0);
         }
-        is.due(run + ": give", town.give(agent, good, many), model.has(agent, good, -1));
+        due("give", town.give(agent, good, many), model.has(agent, good, -1));
     }
 
     private void dropRule() {
@@ -142,7 +155,7 @@ final class RandomRuns {
         if (size > 0) {
             model.agents.get(agent).rules.remove(size - 1);
         }
-        is.due(run + ": unrule", town.unrule(agent), size > 0 ? size - 1 : MarketTown.NO);
+        due("unrule", town.unrule(agent), size > 0 ? size - 1 : MarketTown.NO);
     }
 
     private void world() {
@@ -150,28 +163,28 @@ final class RandomRuns {
         switch (below(3)) {
             case 0:
                 worlds[k] = model.copy();
-                is.due(run + ": save", town.save(k), model.day);
+                due("save", town.save(k), model.day);
                 break;
             case 1:
                 if (worlds[k] != null) {
                     model = worlds[k].copy();
                 }
-                is.due(run + ": load", town.load(k), worlds[k] == null ? MarketTown.NO : model.day);
+                due("load", town.load(k), worlds[k] == null ? MarketTown.NO : model.day);
                 break;
             default:
-                is.due(run + ": differs", town.differs(k), worlds[k] == null ? MarketTown.NO : model.differs(worlds[k]));
+                due("differs", town.differs(k), worlds[k] == null ? MarketTown.NO : model.differs(worlds[k]));
         }
     }
 
     private void live(int n) {
         if (model.day + n > 700) {
-            is.due(run + ": live", town.live(n), MarketTown.BAD);
+            due("live", town.live(n), MarketTown.BAD);
             return;
         }
         for (int i = 0; i < n; i++) {
             model.liveOneDay();
         }
-        is.due(run + ": live", town.live(n), model.day);
+        due("live", town.live(n), model.day);
     }
 
     private void newRule() {
@@ -189,7 +202,8 @@ final class RandomRuns {
                 model.agents.get(agent).rules.add(reading.rule);
             }
         }
-        is.due(run + ": rule '" + text + "'", Expect.rule(town, agent, text), due);
+        calls += 1 + (text.length() + 19) / 20;
+        due("rule '" + text + "'", Expect.rule(town, agent, text), due);
     }
 
     private String faultyText() {
@@ -261,49 +275,66 @@ final class RandomRuns {
         }
     }
 
-    private void compareSome() {
-        for (int agent = 0; agent < model.agents.size(); agent++) {
-            for (int what = 0; what < 7; what++) {
-                is.due(run + ": about(" + agent + ", " + what + ")", town.about(agent, what), model.about(agent, what));
-            }
-        }
-        for (int what = 0; what < 8; what++) {
-            int due = what == 5 ? 0 : model.count(what);
-            is.due(run + ": count(" + what + ")", town.count(what), due);
-        }
-        for (int good = 0; good < 5; good++) {
-            for (int what = 0; what < 8; what++) {
-                is.due(run + ": goods(" + good + ", " + what + ")", town.goods(good, what), model.goods(good, what));
-            }
+    /** A question of those that have an answer. */
+    private void ask() {
+        int agent = below(model.agents.size());
+        int other = below(model.agents.size());
+        int good = below(5);
+        switch (below(8)) {
+            case 0:
+            case 1:
+                askAbout(agent, below(7));
+                break;
+            case 2:
+                askGoods(good, below(8));
+                break;
+            case 3:
+                int age = below(3) == 0 ? -1 : below(10);
+                due("has", town.has(agent, good, age), model.has(agent, good, age));
+                break;
+            case 4:
+                int reason = below(6) - 1;
+                due("paid", town.paid(agent, other, reason), model.paid(agent, other, reason));
+                break;
+            case 5:
+                askCount(below(8));
+                break;
+            case 6:
+                askTold(agent);
+                break;
+            default:
+                askLoanOrMedian();
         }
     }
 
-    private void compareAll() {
-        compareSome();
-        for (int agent = 0; agent < model.agents.size(); agent++) {
-            for (int good = 0; good < 5; good++) {
-                for (int age = -1; age < 10; age++) {
-                    is.due(run + ": has", town.has(agent, good, age), model.has(agent, good, age));
-                }
-            }
-            for (int rule = 0; rule < model.agents.get(agent).rules.size(); rule++) {
-                for (int what = 0; what < 9; what++) {
-                    is.due(run + ": told " + what, town.told(agent, rule, what), model.told(agent, rule, what));
-                }
-            }
-            for (int to = 0; to < model.agents.size(); to++) {
-                for (int reason = -1; reason < 5; reason++) {
-                    is.due(run + ": paid", town.paid(agent, to, reason), model.paid(agent, to, reason));
-                }
-            }
-        }
-        for (int i = 0; i < 21; i++) {
-            for (int what = 0; what < 4; what++) {
-                is.due(run + ": loan", town.loan(i, what), model.loan(i, what));
-            }
-        }
-        for (int kind = 0; kind < 6; kind++) {
-            is.due(run + ": median", town.median(kind), model.median(kind));
+    private void askAbout(int agent, int what) {
+        due("about(" + agent + ", " + what + ")", town.about(agent, what), model.about(agent, what));
+    }
+
+    private void askGoods(int good, int what) {
+        due("goods(" + good + ", " + what + ")", town.goods(good, what), model.goods(good, what));
+    }
+
+    private void askCount(int what) {
+        due("count(" + what + ")", town.count(what), what == 5 ? 0 : model.count(what));
+    }
+
+    private void askTold(int agent) {
+        int rules = model.agents.get(agent).rules.size();
+        int rule = below(rules + 1);
+        int what = below(9);
+        int due = rule < rules ? model.told(agent, rule, what) : MarketTown.BAD;
+        due("told(" + agent + ", " + rule + ", " + what + ")", town.told(agent, rule, what), due);
+    }
+
+    private void askLoanOrMedian() {
+        if (below(3) == 0) {
+            int kind = below(6);
+            due("median(" + kind + ")", town.median(kind), model.median(kind));
+        } else {
+            int loan = below(model.loans.size() + 1);
+            int what = below(4);
+            due("loan(" + loan + ", " + what + ")", town.loan(loan, what), model.loan(loan, what));
         }
     }
 }

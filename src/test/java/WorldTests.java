@@ -7,7 +7,6 @@ final class WorldTests {
     public static void main(String[] args) {
         save();
         load();
-        loadBringsAllBack();
         differs();
         count();
         is.end();
@@ -51,115 +50,6 @@ final class WorldTests {
         is.due("22: its kind", town.about(0, 0), 4);
         town.load(0);
         is.due("22: the world is as it was", town.count(0), 0);
-    }
-
-    private static int[] pictureOf(MarketTown town) {
-        int[] row = new int[3000];
-        int n = 0;
-        for (int agent = 0; agent < 12; agent++) {
-            for (int what = 0; what < 7; what++) {
-                row[n++] = town.about(agent, what);
-            }
-            for (int good = 0; good < 5; good++) {
-                for (int age = -1; age < 10; age++) {
-                    row[n++] = town.has(agent, good, age);
-                }
-            }
-            for (int rule = 0; rule < 6; rule++) {
-                for (int what = 0; what < 9; what++) {
-                    row[n++] = town.told(agent, rule, what);
-                }
-            }
-        }
-        for (int good = 0; good < 5; good++) {
-            for (int what = 0; what < 8; what++) {
-                row[n++] = town.goods(good, what);
-            }
-        }
-        for (int from = 0; from < 12; from++) {
-            for (int to = 0; to < 12; to++) {
-                for (int reason = 0; reason < 5; reason++) {
-                    row[n++] = town.paid(from, to, reason);
-                }
-            }
-        }
-        for (int i = 0; i < 20; i++) {
-            for (int what = 0; what < 4; what++) {
-                row[n++] = town.loan(i, what);
-            }
-        }
-        for (int what = 0; what < 8; what++) {
-            row[n++] = town.count(what);
-        }
-        return row;
-    }
-
-    private static void sameAs(String what, int[] got, int[] want) {
-        for (int i = 0; i < want.length; i++) {
-            if (got[i] != want[i]) {
-                is.due(what + ": at " + i, got[i], want[i]);
-                return;
-            }
-        }
-        is.holds(what, true);
-    }
-
-    private static MarketTown livelyTown() {
-        MarketTown town = new MarketTown();
-        int[] kinds = {1, 2, 3, 4, 5, 0};
-        for (int kind : kinds) {
-            town.agent(kind, 200);
-        }
-        town.good(0, 3, 2);
-        town.good(1, 0, 1);
-        town.recipe(0, 1, 1, 1, 0);
-        town.recipe(1, 0, 0, 0, 0);
-        town.policy(100, 20);
-        Expect.rule(town, 0, "bid 0 3 9");
-        Expect.rule(town, 0, "eat 0 1");
-        Expect.rule(town, 1, "make 1 9");
-        Expect.rule(town, 1, "ask 1 5 4");
-        Expect.rule(town, 2, "bid 1 5 5");
-        Expect.rule(town, 2, "make 0 4");
-        Expect.rule(town, 2, "ask 0 4 6");
-        Expect.rule(town, 3, "every 3 lend 5 30 4");
-        Expect.rule(town, 4, "if cash > 200 pay 0 9");
-        Expect.rule(town, 5, "pay 1 7");
-        return town;
-    }
-
-    private static void loadBringsAllBack() {
-        MarketTown town = livelyTown();
-        town.live(9);
-        int[] before = pictureOf(town);
-        town.save(2);
-        town.live(20);
-        int[] after = pictureOf(town);
-        disturb(town);
-        is.due("22: DAY", town.load(2), 9);
-        sameAs("22: all is as it was", pictureOf(town), before);
-        town.live(20);
-        sameAs("22: and goes on as it did", pictureOf(town), after);
-        town.load(2);
-        sameAs("22: once more", pictureOf(town), before);
-        is.holds("22: some loan was open", town.count(3) > 0);
-        is.holds("22: days changed much", before[before.length - 1] != 1);
-    }
-
-    private static void disturb(MarketTown town) {
-        town.agent(5, 9);
-        town.policy(7, 7);
-        town.lots(3);
-        for (int good = 0; good < 5; good++) {
-            town.good(good, 1, 0);
-            town.recipe(good, 0, -1, 0, 0);
-            town.give(3, good, 50);
-        }
-        for (int agent = 0; agent < 6; agent++) {
-            town.unrule(agent);
-            Expect.rule(town, agent, "if day > 5 pay " + (agent + 1) + " 2");
-        }
-        town.live(3);
     }
 
     private static void differs() {
