@@ -8,6 +8,7 @@ public final class MarketTown {
 
     private static final int MOST_AGENTS = 12;
     private static final int MOST_CASH = 100000;
+    private static final int ALL_CASH = MOST_AGENTS * MOST_CASH;
     private static final int GOODS = 5;
     private static final int AGES = 10;
     private static final int MOST_LIFE = 9;
@@ -382,7 +383,7 @@ public final class MarketTown {
         }
 
         int middleCash(int wanted) {
-            int middle = (cashNotAbove(wanted, Integer.MAX_VALUE) - 1) / 2;
+            int middle = (cashNotAbove(wanted, ALL_CASH) - 1) / 2;
             for (int agent = 0; agent < agents; agent++) {
                 if (belongs(agent, wanted)
                         && cashNotAbove(wanted, cash[agent] - 1) <= middle

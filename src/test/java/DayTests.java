@@ -25,6 +25,7 @@ final class DayTests {
         brokeAgents();
         lentOnTheSameDay();
         ages();
+        exampleOfReadme();
         is.end();
     }
 
@@ -642,5 +643,23 @@ final class DayTests {
         town.live(1);
         is.due("12: those above it are gone", town.has(0, 0, -1), 2);
         is.due("12: gone", town.goods(0, 6), 15);
+    }
+
+    /** The example of README.md, with the answers that it tells. */
+    private static void exampleOfReadme() {
+        MarketTown town = new MarketTown();
+        int house = town.agent(1, 100);
+        int maker = town.agent(2, 10);
+        town.recipe(0, 0, 0, 0, 0);
+        town.feed(0x6d616b65, 0x20302035, 0, 0, 0);
+        town.trim(8);
+        is.due("README: the maker's first rule", town.rule(maker), 0);
+        town.feed(0x61736b20, 0x30203520, 0x37202020, 0x20202020, 0x20202020);
+        is.due("README: its second", town.rule(maker), 1);
+        town.feed(0x62696420, 0x30203320, 0x39202020, 0x20202020, 0x20202020);
+        is.due("README: the house's rule", town.rule(house), 0);
+        is.due("README: a day", town.live(1), 1);
+        is.due("README: bread", town.has(house, 0, -1), 3);
+        is.due("README: coins", town.paid(house, maker, 0), 21);
     }
 }
