@@ -1,10 +1,10 @@
 import java.lang.management.ManagementFactory;
 
-/** What a run makes stays in the room of all calls: 600,000 objects and arrays, 7.3 million fields and elements. */
+/** What a run makes stays far below the room of all calls: 600,000 objects, 7.3 million fields and elements. */
 final class RoomTests {
     private static final int CALLS = 512;
-    private static final long BYTES_OF_OBJECT = 16, BYTES_OF_FIELD = 8;
-    private static final long ROOM = 600_000 * BYTES_OF_OBJECT + 7_300_000 * BYTES_OF_FIELD;
+    private static final long MOST_OF_OBJECT = 1_000_000;
+    private static final long MOST_OF_CALLS = 7_300_000;
 
     public static void main(String[] args) {
         Expect is = new Expect();
@@ -16,9 +16,11 @@ final class RoomTests {
         busyRun(new MarketTown());
         long start = bean.getCurrentThreadAllocatedBytes();
         MarketTown town = new MarketTown();
+        long made = bean.getCurrentThreadAllocatedBytes();
         int last = busyRun(town);
         long end = bean.getCurrentThreadAllocatedBytes();
-        is.holds("an object and its calls make " + (end - start) + " bytes", end - start < ROOM);
+        is.holds("an object has " + (made - start) + " bytes", made - start < MOST_OF_OBJECT);
+        is.holds("its calls make " + (end - made) + " bytes", end - made < MOST_OF_CALLS);
         is.holds("the run went on", last > 0);
         is.end();
     }
